@@ -18,14 +18,19 @@ final class Check {
         report(due == got, what, String.valueOf(due), String.valueOf(got));
     }
 
-    /** The call throws just this exception, and the inn is as before. */
+    static void equal(String what, String due, String got) {
+        report(due.equals(got), what, due, got);
+    }
+
+    /** The call throws just this exception, by a throw of the inn's own, and the inn is as before. */
     static void refuses(GhostInn inn, String what, Class<? extends RuntimeException> due, Runnable call) {
         long before = inn.digest();
         String got = "nothing";
         try {
             call.run();
         } catch (RuntimeException e) {
-            got = e.getClass().getName();
+            boolean thrownByInn = e.getStackTrace()[0].getClassName().startsWith("GhostInn");
+            got = e.getClass().getName() + (thrownByInn ? "" : " of the machine");
         }
         report(due.getName().equals(got), what, due.getName(), got);
         equal(what + " changes nothing, digest()", before, inn.digest());
