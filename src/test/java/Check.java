@@ -2,6 +2,7 @@
 final class Check {
     private static int checks = 0;
     private static int wrong = 0;
+    private static String within = "";
 
     private Check() {
     }
@@ -22,9 +23,8 @@ final class Check {
         report(due.equals(got), what, due, got);
     }
 
-    /** The call throws just this exception, by a throw of the inn's own, and the inn is as before. */
-    static void refuses(GhostInn inn, String what, Class<? extends RuntimeException> due, Runnable call) {
-        long before = inn.digest();
+    /** The call throws just this exception, by a throw of the inn's own: the machine and the library throw none. */
+    static void throwsItself(Class<? extends RuntimeException> due, String what, Runnable call) {
         String got = "nothing";
         try {
             call.run();
@@ -33,6 +33,12 @@ final class Check {
             got = e.getClass().getName() + (thrownByInn ? "" : " of the machine");
         }
         report(due.getName().equals(got), what, due.getName(), got);
+    }
+
+    /** The call throws just this exception, and the inn is as before. */
+    static void refuses(GhostInn inn, String what, Class<? extends RuntimeException> due, Runnable call) {
+        long before = inn.digest();
+        throwsItself(due, what, call);
         equal(what + " changes nothing, digest()", before, inn.digest());
     }
 
@@ -46,6 +52,21 @@ final class Check {
 
     static void refusesState(GhostInn inn, String what, Runnable call) {
         refuses(inn, what, IllegalStateException.class, call);
+    }
+
+    /** How many answers of this one test are wrong; that it checks nothing, or breaks off, is wrong as well. */
+    static int wrongIn(String name, Runnable test) {
+        int checksBefore = checks;
+        int wrongBefore = wrong;
+        within = name + "\n        ";
+        try {
+            test.run();
+        } catch (RuntimeException | StackOverflowError e) {
+            report(false, "the test breaks off", "an answer", e.toString());
+        }
+        report(checks > checksBefore, "the test", "a check", "none");
+        within = "";
+        return wrong - wrongBefore;
     }
 
     static void end() {
@@ -63,7 +84,7 @@ final class Check {
         checks++;
         if (!right) {
             wrong++;
-            System.out.println(what + ": due is " + due + ", got " + got);
+            System.out.println(within + what + ": due is " + due + ", got " + got);
         }
     }
 }
