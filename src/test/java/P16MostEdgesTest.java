@@ -17,7 +17,8 @@ final class P16MostEdgesTest {
 
     static List<Sentence> all() {
         return List.of(
-                new Sentence(HEAD, TELLS, "0 without rooms, without guests, without bids", P16MostEdgesTest::nothingThere)
+                new Sentence(HEAD, TELLS, "0 without rooms, without guests, without bids",
+                        P16MostEdgesTest::nothingThere)
                         .brokenIn("most", "int taken = 0", "int taken = 1"),
                 new Sentence(HEAD, TELLS, "each guest at most one room", P16MostEdgesTest::oneRoomEach)
                         .brokenIn("most", "taken += guests.get(guest).bidPrice",
@@ -69,7 +70,8 @@ final class P16MostEdgesTest {
                 new Sentence(HEAD, RETURNS, "nothing is changed, and twice the same", P16MostEdgesTest::nothingChanged)
                         .brokenIn("most", "seating.clear();", "")
                         .brokenIn("most", "return taken", "nightsGone++;\nreturn taken")
-                        .brokenIn("most", "return taken", "if (isGuest(0)) {\nguests.get(0).dropBid();\n}\nreturn taken"),
+                        .brokenIn("most", "return taken",
+                                "if (isGuest(0)) {\nguests.get(0).dropBid();\n}\nreturn taken"),
                 new Sentence(HEAD, RETURNS, "guests who have a bid now: none when it has left, or behind the night",
                         P16MostEdgesTest::bidsOfNow)
                         .brokenIn("leave", "bidder.dropBid();", "")

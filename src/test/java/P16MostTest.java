@@ -71,31 +71,35 @@ final class P16MostTest {
 
     private static void againstAllWays(Dice dice) {
         GhostInn inn = new GhostInn();
-        int rooms = dice.from(1, 6);
-        int guests = dice.from(1, 8);
-        for (int room = 0; room < rooms; room++) {
-            inn.furnish(dice.from(1, 6), 0, dice.from(0, 100));
+        int[][] rooms = new int[dice.from(1, 6)][];
+        int[][] guests = new int[dice.from(1, 8)][];
+        for (int room = 0; room < rooms.length; room++) {
+            rooms[room] = new int[] {dice.from(1, 6), dice.from(0, 100)};
+            inn.furnish(rooms[room][0], 0, rooms[room][1]);
         }
-        for (int guest = 0; guest < guests; guest++) {
-            inn.come(dice.from(0, 300), dice.from(1, 6), 0);
+        for (int guest = 0; guest < guests.length; guest++) {
+            guests[guest] = new int[] {dice.from(0, 300), dice.from(1, 6), 0};
+            inn.come(guests[guest][0], guests[guest][1], 0);
             if (dice.from(0, 9) > 0) {
-                inn.bid(guest, dice.from(0, rooms - 1), dice.from(1, 200));
+                guests[guest][2] = dice.from(1, 200);
+                inn.bid(guest, dice.from(0, rooms.length - 1), guests[guest][2]);
             }
         }
-        Check.equal("most() of all ways", allWays(inn, 0, 0), inn.most());
+        Check.equal("most() of all ways", allWays(rooms, guests, 0, 0), inn.most());
     }
 
-    private static int allWays(GhostInn inn, int guest, int taken) {
-        if (guest == inn.count(4)) {
+    /** Rooms: beds and least price. Guests: coins, beds and price, 0 without a bid. */
+    private static int allWays(int[][] rooms, int[][] guests, int guest, int taken) {
+        if (guest == guests.length) {
             return 0;
         }
-        int most = allWays(inn, guest + 1, taken);
-        int price = inn.guest(guest, 4);
-        for (int room = 0; room < inn.count(1); room++) {
-            boolean counts = inn.guest(guest, 3) >= 0 && inn.guest(guest, 0) >= price
-                    && inn.room(room, 0) >= inn.guest(guest, 1) && price >= inn.room(room, 2);
+        int most = allWays(rooms, guests, guest + 1, taken);
+        int[] asking = guests[guest];
+        for (int room = 0; room < rooms.length; room++) {
+            boolean counts = asking[2] > 0 && asking[0] >= asking[2] && rooms[room][0] >= asking[1]
+                    && asking[2] >= rooms[room][1];
             if (counts && (taken >> room & 1) == 0) {
-                most = Math.max(most, price + allWays(inn, guest + 1, taken | 1 << room));
+                most = Math.max(most, asking[2] + allWays(rooms, guests, guest + 1, taken | 1 << room));
             }
         }
         return most;

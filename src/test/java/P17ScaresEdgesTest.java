@@ -14,7 +14,8 @@ final class P17ScaresEdgesTest {
 
     static List<Sentence> all() {
         return List.of(
-                new Sentence(HEAD, RETURNS, "0 without guests, without bids, in another room", P17ScaresEdgesTest::nothing)
+                new Sentence(HEAD, RETURNS, "0 without guests, without bids, in another room",
+                        P17ScaresEdgesTest::nothing)
                         .brokenIn("backTonight", "int back = 0", "int back = sleeper == NONE ? 1 : 0")
                         .brokenIn("backTonight", "hauntingOfNight(room, sleeper)", "hauntingOfNight(0, sleeper)"),
                 new Sentence(HEAD, RETURNS, "frightened just by this ghost, or all the same",
@@ -35,7 +36,8 @@ final class P17ScaresEdgesTest {
                 new Sentence(HEAD, RETURNS, "by the bids now: the winner's alone", P17ScaresEdgesTest::winnersAlone)
                         .brokenIn("backTonight", "int winner = winnerOf(room)", "int winner = 0")
                         .brokenIn("leave", "bidder.dropBid();", ""),
-                new Sentence(HEAD, RETURNS, "nothing is changed, and twice the same", P17ScaresEdgesTest::nothingChanged)
+                new Sentence(HEAD, RETURNS, "nothing is changed, and twice the same",
+                        P17ScaresEdgesTest::nothingChanged)
                         .brokenIn("scares", "return backTonight", "nightsGone++;\nreturn backTonight")
                         .brokenIn("scares", "return backTonight", "ghosts.get(ghost).setPlace(11, NONE);\n"
                                 + "return backTonight"),

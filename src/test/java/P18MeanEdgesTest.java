@@ -13,12 +13,15 @@ final class P18MeanEdgesTest {
 
     static List<Sentence> all() {
         return List.of(
-                new Sentence(HEAD, RETURNS, "0 without rooms, and with rooms that were never let", P18MeanEdgesTest::none)
+                new Sentence(HEAD, RETURNS, "0 without rooms, and with rooms that were never let",
+                        P18MeanEdgesTest::none)
                         .brokenIn("mean", "nightsLet == 0 ? 0.0 : ", "")
                         .brokenIn("mean", "? 0.0", "? 1.0"),
-                new Sentence(HEAD, RETURNS, "0 of a night for nothing, then of one more night", P18MeanEdgesTest::nothing)
+                new Sentence(HEAD, RETURNS, "0 of a night for nothing, then of one more night",
+                        P18MeanEdgesTest::nothing)
                         .brokenIn("mean", "nightsLet += ", "nightsLet += rooms.get(room).earned == 0 ? 0 : "),
-                new Sentence(HEAD, RETURNS, "not cut: 1 coin of two nights, of three, of seven", P18MeanEdgesTest::notCut)
+                new Sentence(HEAD, RETURNS, "not cut: 1 coin of two nights, of three, of seven",
+                        P18MeanEdgesTest::notCut)
                         .brokenIn("mean", ANSWER, "(double) (coins / nightsLet)")
                         .brokenIn("mean", ANSWER, "(double) (float) ((float) coins / (float) nightsLet)"),
                 new Sentence(HEAD, RETURNS, "of all rooms added, the first and the last one too",

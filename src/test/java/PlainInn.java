@@ -265,4 +265,28 @@ final class PlainInn {
         int nights = rooms.stream().mapToInt(room -> room[3]).sum();
         return nights == 0 ? 0 : 1.0 * coins / nights;
     }
+
+    long digest() {
+        List<Integer> told = new ArrayList<>();
+        for (int what = 0; what < 9; what++) {
+            told.add(count(what));
+        }
+        for (int r = 0; r < rooms.size(); r++) {
+            for (int what = 0; what < 9; what++) {
+                told.add(what < 6 ? room(r, what) : wins(r, what - 6));
+            }
+            told.add(haunting(r, -1));
+        }
+        for (int n = 0; n < 12 * ghosts.size(); n++) {
+            told.add(at(n / 12, n % 12));
+        }
+        for (int n = 0; n < 7 * guests.size(); n++) {
+            told.add(guest(n / 7, n % 7));
+        }
+        long d = 773;
+        for (int x : told) {
+            d = d * 31 + x;
+        }
+        return d;
+    }
 }
