@@ -20,8 +20,6 @@ final class ManyRunsTest {
         Check.end();
     }
 
-    // No inn gets more than its 512 calls: so PlainInn is asked how many there are of each.
-
     /** One number of twenty lies far outside of its bounds. */
     private static int number(Dice dice, int least, int most) {
         return dice.from(0, 19) == 0 ? FAR[dice.from(0, FAR.length - 1)] : dice.from(least, most);
@@ -29,6 +27,7 @@ final class ManyRunsTest {
 
     private static void call(String when, Dice dice, int hauntings, GhostInn inn, PlainInn plain) {
         int kind = dice.from(0, 29);
+        // PlainInn is asked how many there are of each: what the inn itself answers is promised for 512 calls alone.
         int room = number(dice, 0, Math.max(0, plain.count(1) - 1));
         int guest = number(dice, 0, Math.max(0, plain.count(4) - 1));
         int ghost = number(dice, 0, Math.max(0, plain.count(3) - 1));
